@@ -441,7 +441,7 @@ public final class WokenBorder {
         if (sort == SORT_CAR) {
             return draft.read(tape);
         }
-        return sort == SORT_LAW ? shelf.readLaw(tape) : shelf.readLines(tape);
+        return sort == SORT_LAW ? shelf.lawDraft().read(tape) : shelf.linesDraft().read(tape);
     }
 
     /** The draft becomes the CAR; what belonged to the one ahead goes. */
@@ -596,12 +596,13 @@ public final class WokenBorder {
 
         /** NONE: no digit is here, or one too many, at which the reader stays then. */
         int number(int mostDigits) {
-            int value = digit();
-            for (int more = 1; more < mostDigits && value != NONE && atDigit(); more++) {
+            ahead();
+            int value = atDigit() ? 0 : NONE;
+            for (int digits = 0; digits < mostDigits && atDigit(); digits++) {
                 value = 10 * value + signs[at] - '0';
                 at++;
             }
-            return value == NONE || atDigit() ? NONE : value;
+            return atDigit() ? NONE : value;
         }
 
         void stayAtLastDigit() {
@@ -1172,12 +1173,12 @@ public final class WokenBorder {
             return i >= 0 && i < linesCount ? scripts[i] : null;
         }
 
-        boolean readLaw(Tape tape) {
-            return lawDraft.read(tape);
+        Law lawDraft() {
+            return lawDraft;
         }
 
-        boolean readLines(Tape tape) {
-            return linesDraft.read(tape);
+        Lines linesDraft() {
+            return linesDraft;
         }
 
         int keepLaw() {
@@ -1727,7 +1728,9 @@ public final class WokenBorder {
             }
             for (int set = full - 1; set > 0; set--) {
                 for (int last = 0; last < many; last++) {
-                    least[set * MOST + last] = leastBehind(set, last);
+                    if ((set >> last & 1) == 1) {
+                        least[set * MOST + last] = leastBehind(set, last);
+                    }
                 }
             }
             worth = leastBehind(0, NONE);
@@ -1773,6 +1776,7 @@ public final class WokenBorder {
         private static final int SETS = 1 << Car.MOST_SLEEPERS;
         private static final int CHOICES = 3;
         private static final int LATE = -1;
+        private static final int FAR = 1000000000;
 
         private final Car car;
         private final House house;
@@ -1782,8 +1786,10 @@ public final class WokenBorder {
         private final int[] sums = new int[SETS];
         // By places of the DRAWER, and how many were WOKEN ahead at this BORDER.
         private final int[] losses = new int[Car.MOST_SLEEPERS * Car.MOST_SLEEPERS];
+        // By places of the DRAWER: a turn as of one awake, a WAIT, the SLEEPER's bit if it would be WOKEN.
         private final int[] turns = new int[Car.MOST_SLEEPERS];
         private final int[] waits = new int[Car.MOST_SLEEPERS];
+        private final int[] rousable = new int[Car.MOST_SLEEPERS];
 
         // By those who LACK something: what is SAID, and the OFFICER; and levels of the search.
         private final int[] lacking = new int[Car.MOST_SLEEPERS];
@@ -1811,20 +1817,15 @@ public final class WokenBorder {
         /** False: some OFFICER is LATE with each set. */
         boolean findWhomToWake() {
             int asleep = asleepWithPapers();
-            int sets = 1 << car.sleepers();
             sumByHand(asleep);
             for (int officer = 0; officer < car.officers(); officer++) {
                 if (car.ofOfficer(officer, Car.WEIGHT) > 0) {
                     layOutDrawer(officer);
-                    for (int set = 0; set < sets; set++) {
-                        if ((set & ~asleep) == 0 && sums[set] != LATE) {
-                            addBorder(set, officer);
-                        }
-                    }
+                    addBorders(asleep, officer);
                 }
             }
             answer = NONE;
-            for (int set = 0; set < sets; set++) {
+            for (int set = 0; set <= asleep; set++) {
                 boolean can = (set & ~asleep) == 0 && sums[set] != LATE;
                 if (can && (answer == NONE || sums[set] < worth)) {
                     answer = set;
@@ -1836,10 +1837,9 @@ public final class WokenBorder {
 
         private int asleepWithPapers() {
             int asleep = 0;
-            for (int who = 0; who < car.sleepers(); who++) {
-                if (car.hasPaper(who) && scene.isAsleep(who)) {
-                    asleep |= 1 << who;
-                }
+            for (int place = 0; place < car.papers(); place++) {
+                int who = scene.inDrawer(place);
+                asleep |= scene.isAsleep(who) ? 1 << who : 0;
             }
             return asleep;
         }
@@ -1867,7 +1867,8 @@ public final class WokenBorder {
                 if (house.takesCoffee(scene, who) && coffees > 0) {
                     coffees--;
                 }
-                if (house.wakes(scene, who, officer)) {
+                rousable[place] = house.wakes(scene, who, officer) ? 1 << who : 0;
+                if (rousable[place] != 0) {
                     for (int ahead = 0; ahead <= wakes; ahead++) {
                         int tens = begin + ahead * car.ruleOf(Car.LONGER);
                         losses[place * Car.MOST_SLEEPERS + ahead] = house.lossOf(scene, who, tens, officer);
@@ -1878,26 +1879,36 @@ public final class WokenBorder {
             }
         }
 
-        private void addBorder(int set, int officer) {
+        private void addBorders(int asleep, int officer) {
+            int weight = car.ofOfficer(officer, Car.WEIGHT);
+            for (int set = 0; set <= asleep; set++) {
+                if ((set & ~asleep) == 0 && sums[set] != LATE) {
+                    int loss = lossWithout(set);
+                    sums[set] = loss == LATE ? LATE : sums[set] + weight * loss;
+                }
+            }
+        }
+
+        /** SLEEP lost at the BORDER that is laid out, if the set is awake; or LATE. */
+        private int lossWithout(int set) {
+            int longer = car.ruleOf(Car.LONGER);
+            int papers = car.papers();
             int tens = 0;
             int over = 0;
             int wakes = 0;
             int loss = 0;
-            for (int place = 0; place < car.papers(); place++) {
-                int who = scene.inDrawer(place);
-                if (house.wakes(scene, who, officer) && (set >> who & 1) == 0) {
+            for (int place = 0; place < papers; place++) {
+                if ((rousable[place] & ~set) != 0) {
                     loss += losses[place * Car.MOST_SLEEPERS + wakes];
                     wakes++;
-                    tens += car.ruleOf(Car.LONGER);
+                    tens += longer;
                 }
                 tens += turns[place];
-                over = Math.max(over, tens + waits[place]);
+                if (tens + waits[place] > over) {
+                    over = tens + waits[place];
+                }
             }
-            if (over > car.allowedTens()) {
-                sums[set] = LATE;
-            } else {
-                sums[set] += car.ofOfficer(officer, Car.WEIGHT) * loss;
-            }
+            return over > car.allowedTens() ? LATE : loss;
         }
 
         /** False: nobody with a PAPER LACKS anything. */
@@ -1915,9 +1926,10 @@ public final class WokenBorder {
             for (int officer = 0; officer < car.officers(); officer++) {
                 layOutWaits(officer);
             }
-            answer = NONE;
-            choose(0, scene.coffees(), 0);
-            return true;
+            worth = FAR;
+            chooseLeast(0, scene.coffees());
+            answer = 0;
+            return chooseDigits(0, scene.coffees(), 0);
         }
 
         private void layOutWaits(int officer) {
@@ -1935,7 +1947,12 @@ public final class WokenBorder {
                 }
             }
             peaks[officer] = tens;
-            rest[lackingMany * Car.MOST_OFFICERS + officer] = tens;
+            layOutRest(officer, tens);
+        }
+
+        /** What the OFFICER takes at the least for those from one on, whatever is SAID. */
+        private void layOutRest(int officer, int stamps) {
+            rest[lackingMany * Car.MOST_OFFICERS + officer] = stamps;
             for (int one = lackingMany - 1; one >= 0; one--) {
                 int least = fetched[cellOf(one, 0, officer)];
                 for (int said = 1; said < CHOICES; said++) {
@@ -1950,38 +1967,77 @@ public final class WokenBorder {
             return (one * CHOICES + said) * Car.MOST_OFFICERS + officer;
         }
 
-        /**
-         * Digits come rising, so the first of several stays. A COFFEE that is not left does as much
-         * as nothing, whose digit is lower, so it need not be tried.
-         */
-        private void choose(int one, int coffees, int digits) {
-            int atLeast = worthAtLeast(one);
-            if (answer != NONE && atLeast >= worth) {
-                return;
-            }
+        /** The least TENS: each level tries what looks best first, so that most of the rest falls away. */
+        private void chooseLeast(int one, int coffees) {
             if (one >= lackingMany) {
-                answer = digits;
-                worth = atLeast;
+                worth = Math.min(worth, worthAtLeast(one));
                 return;
             }
-            int level = one * Car.MOST_OFFICERS;
-            for (int said = 0; said < CHOICES; said++) {
-                int left = said == House.COFFEE ? coffees - 1 : coffees;
-                if (left >= 0) {
-                    for (int officer = 0; officer < car.officers(); officer++) {
-                        int latest = Math.max(peaks[level + officer], fetched[cellOf(one, said, officer)]);
-                        peaks[level + Car.MOST_OFFICERS + officer] = latest;
+            int tried = 0;
+            for (int turn = 0; turn < CHOICES; turn++) {
+                int best = NONE;
+                int bestWorth = worth;
+                for (int said = 0; said < CHOICES; said++) {
+                    if ((tried >> said & 1) == 0 && coffeesBehind(said, coffees) >= 0) {
+                        sayOne(one, said);
+                        int atLeast = worthAtLeast(one + 1);
+                        if (atLeast < bestWorth) {
+                            best = said;
+                            bestWorth = atLeast;
+                        }
                     }
-                    choose(one + 1, left, 10 * digits + said);
                 }
+                if (best == NONE) {
+                    return;
+                }
+                tried |= 1 << best;
+                sayOne(one, best);
+                chooseLeast(one + 1, coffeesBehind(best, coffees));
             }
         }
 
+        /** The least digits by which TENS are the least: true if these were found. */
+        private boolean chooseDigits(int one, int coffees, int digits) {
+            if (worthAtLeast(one) > worth) {
+                return false;
+            }
+            if (one >= lackingMany) {
+                answer = digits;
+                return true;
+            }
+            for (int said = 0; said < CHOICES; said++) {
+                int left = coffeesBehind(said, coffees);
+                if (left >= 0) {
+                    sayOne(one, said);
+                    if (chooseDigits(one + 1, left, 10 * digits + said)) {
+                        return true;
+                    }
+                }
+            }
+            return false;
+        }
+
+        /** A COFFEE that is not left does as much as nothing, whose digit is lower, so it is not tried. */
+        private static int coffeesBehind(int said, int coffees) {
+            return said == House.COFFEE ? coffees - 1 : coffees;
+        }
+
+        private void sayOne(int one, int said) {
+            int level = one * Car.MOST_OFFICERS;
+            int from = (one * CHOICES + said) * Car.MOST_OFFICERS;
+            for (int officer = 0; officer < car.officers(); officer++) {
+                int latest = Math.max(peaks[level + officer], fetched[from + officer]);
+                peaks[level + Car.MOST_OFFICERS + officer] = latest;
+            }
+        }
+
+        /** TENS times WEIGHTS that can't be avoided any more, with what is SAID for those ahead of one. */
         private int worthAtLeast(int one) {
+            int level = one * Car.MOST_OFFICERS;
             int sum = 0;
             for (int officer = 0; officer < car.officers(); officer++) {
-                int cell = one * Car.MOST_OFFICERS + officer;
-                sum += car.ofOfficer(officer, Car.WEIGHT) * Math.max(peaks[cell], rest[cell]);
+                int latest = Math.max(peaks[level + officer], rest[level + officer]);
+                sum += car.ofOfficer(officer, Car.WEIGHT) * latest;
             }
             return sum;
         }
