@@ -182,6 +182,7 @@ final class ActsTest {
         }
         WokenBorder x = new WokenBorder();
         DUE.due("17: no CAR", x.nights(1, 1), NONE);
+        DUE.due("17: one night", Due.car("p;o").nights(1, 1), 1);
         x = Due.car("p;ow0;ow0");
         DUE.due("17: no night", x.nights(0, 1), NONE);
         DUE.due("17: too many", x.nights(21, 1), NONE);

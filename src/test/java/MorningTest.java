@@ -20,6 +20,7 @@ final class MorningTest {
         promise45Back();
         promise45BackOfTheLog();
         promise46Count();
+        nineSleepersFourOfficers();
         DUE.finish("MorningTest");
     }
 
@@ -278,5 +279,32 @@ final class MorningTest {
         }
         DUE.due("46: others", x.count(14), HIDDEN);
         DUE.due("46: others", x.count(-1), HIDDEN);
+    }
+
+    /** The largest CAR: the last of each sort is as good as the others. */
+    private static void nineSleepersFourOfficers() {
+        WokenBorder x = Due.car("sa60c9;pl1;pl1;pl1;pl1;pl1;pl1;pl1;pl1;pl1n9s9f9;o;o;o;ow9f1k1");
+        DUE.due("12: say(8, 2)", x.say(8, 2), 0);
+        DUE.due("11: move(8, 0)", x.move(8, 0), 8);
+        DUE.due("23: time(3, 0)", x.time(3, 0), 60);
+        DUE.due("23: time(3, 1)", x.time(3, 1), 8 * 8 + 14);
+        DUE.due("24: nine PAPERS", x.order(3, 0), HIDDEN);
+        DUE.due("25: bound(3)", x.bound(3), 54);
+        DUE.due("26: before(0)", x.before(0), 0);
+        DUE.due("26: before(1)", x.before(1), 9 * 78);
+        // 7 and 6 come last and drink a COFFEE each; an excuse for 5 still does no harm with FACES.
+        DUE.due("27: words(0)", x.words(0), 1220);
+        DUE.due("27: words(1)", x.words(1), 9 * 54 + 3 * 18);
+        DUE.due("31: eight ways and none", x.fit(NONE), 9);
+        DUE.due("31: the last way", x.fit(8), 101 + 78);
+        DUE.due("32: eight and one at each", x.best(), 0);
+        DUE.due("33: heads(9, 0)", x.heads(9, 0), 0);
+        DUE.due("38: which(511)", x.which(511), 8);
+        DUE.due("38: which(512)", x.which(512), NONE);
+        DUE.due("15: swap(8, 0)", x.swap(8, 0), 3);
+        DUE.due("41: beside(8)", x.beside(8), 2);
+        DUE.due("16: border(3)", x.border(3), 60);
+        DUE.due("40: tired()", x.tired(), 8);
+        DUE.due("46: SLEEP lost in all", x.count(13), 78);
     }
 }

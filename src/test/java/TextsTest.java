@@ -144,6 +144,11 @@ final class TextsTest {
         Due.feed(x, "p;o");
         DUE.due("4: no such sort", x.fault(3), -2);
         DUE.due("4: no such sort", x.fault(-1), -2);
+        Due.feed(x, "b0");
+        DUE.due("5: LINES, but no such sort", x.text(3), NONE);
+        Due.feed(x, "y:1");
+        DUE.due("5: a LAW, but no such sort", x.text(-1), NONE);
+        DUE.due("5: nothing was kept", x.count(2) + x.count(3), 0);
     }
 
     private static void promise5Text() {
@@ -299,6 +304,10 @@ final class TextsTest {
         worth("y:n+1=s?1;y:2", 1);
         worth("y:1", 1);
         worth("y:((((((n=6))))))?[[[[[[41]]]]]]+1", 42);
+        worth("y:" + "n=5|n=6&(".repeat(6) + "1<2+3*n" + "))))))?41;y:42", 41);
+        worth("y:1+1*[1+1*[1+1*[1+1*[1+1*[1+1*[1+1*5]]]]]]", 12);
+        worth("y:0" + "+1-0".repeat(59) + " ", 59);
+        worth("y:0=1?1;".repeat(29) + "y:0<1?7", 7);
     }
 
     private static void promise10Drowsy() {
