@@ -75,6 +75,7 @@ final class MorningTest {
         DUE.due("36: house, nothing", x.favour(0, 3, 0, 0, 0), 0);
         DUE.due("36: house, FACES: 19 by 10, cut", x.favour(0, 3, 0, 1, 0), -3);
         DUE.due("36: house, both", x.favour(1, 3, 1, 1, 0), -9);
+        DUE.due("36: house, 20 by 10", Due.car("pn7;pn3;o").favour(0, 1, 0, 1, 0), -2);
         int[] officer = {0, 9, 27, 18};
         for (int xy = 0; xy < 4; xy++) {
             DUE.due("36: OFFICER by " + xy, x.favour(0, 9, xy / 2, xy % 2, 1), officer[xy]);

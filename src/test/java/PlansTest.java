@@ -11,6 +11,7 @@ final class PlansTest {
         promise24OrderWithCoffees();
         promise25Bound();
         promise26Before();
+        promise26BeforeWithCoffees();
         promise26BeforeByLaw();
         promise27Words();
         promise27WordsOfSeveralOfficers();
@@ -129,6 +130,23 @@ final class PlansTest {
         DUE.due("26: no such what", x.before(-1), NONE);
         x.wake(0);
         DUE.due("26: who is awake loses nothing", x.before(1), 5);
+    }
+
+    /** Both ask for a COFFEE; without one the second is fetched at 8, and 6 are ALLOWED. */
+    private static void beforeWithCoffees(int coffees, int set) {
+        WokenBorder x = Due.car("sa1e0c" + coffees + ";pt1l1;pt1l1;ok1");
+        x.say(0, 2);
+        x.say(1, 2);
+        DUE.due("26: with COFFEES " + coffees, x.before(0), set);
+        x.say(0, 0);
+        DUE.due("26: the first asks for none, and is fetched at 7", x.before(0), NONE);
+    }
+
+    private static void promise26BeforeWithCoffees() {
+        beforeWithCoffees(0, NONE);
+        beforeWithCoffees(1, NONE);
+        beforeWithCoffees(2, 0);
+        beforeWithCoffees(3, 0);
     }
 
     private static void promise26BeforeByLaw() {

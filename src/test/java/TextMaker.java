@@ -12,12 +12,13 @@ final class TextMaker {
     static String car(Random r, boolean small) {
         boolean airy = r.nextInt(6) == 0;
         int people = 1 + r.nextInt(small ? 5 : 9);
+        int grown = r.nextInt(people);
         int posts = 1 + r.nextInt(4);
         boolean bigAllowance = r.nextBoolean();
         StringBuilder b = new StringBuilder();
         if (r.nextInt(5) > 0) {
             b.append('s');
-            item(r, b, airy, 'a', 1, bigAllowance ? 60 : 15, 2);
+            item(r, b, airy, 'a', 1, bigAllowance ? 60 : 12, 9);
             item(r, b, airy, 'g', 0, 30, 2);
             item(r, b, airy, 'c', 0, 4, 2);
             item(r, b, airy, 'e', 0, 9, 2);
@@ -26,11 +27,11 @@ final class TextMaker {
         for (int i = 0; i < people; i++) {
             b.append(blank(r, airy)).append('p');
             item(r, b, airy, 't', 1, 9, 2);
-            item(r, b, airy, 'l', 0, 9, 2);
+            item(r, b, airy, 'l', 0, bigAllowance ? 9 : 4, 3);
             item(r, b, airy, 'n', 0, 9, 2);
             item(r, b, airy, 's', 0, 9, 2);
             item(r, b, airy, 'f', 0, 3, 2);
-            if (i > 0 && r.nextInt(4) == 0) {
+            if (i != grown && r.nextInt(4) == 0) {
                 b.append("c1");
             }
             b.append(';');

@@ -52,6 +52,14 @@ final class TextsTest {
         DUE.due("2: refused at 240", x.feed(0, 0, 0, 0, 1), NONE);
         DUE.due("2: it kept what it had", x.count(4), 240);
         DUE.due("2: nothing more is no more", x.feed(0, 0, 0, 0, 0), 240);
+        for (int k = 0; k < 5; k++) {
+            x.end(239);
+            int[] v = new int[5];
+            v[k] = 0x7070;
+            DUE.due("2: two do not go, wherever they stand", x.feed(v[0], v[1], v[2], v[3], v[4]), NONE);
+            v[k] = 0x70;
+            DUE.due("2: one does", x.feed(v[0], v[1], v[2], v[3], v[4]), 240);
+        }
         x.end(235);
         DUE.due("2: six do not go", x.feed(-1, 0xFFFF, 0, 0, 0), NONE);
         DUE.due("2: five do", x.feed(-1, 0xFF, 0, 0, 0), 240);
@@ -217,6 +225,8 @@ final class TextsTest {
         for (int[] ask : none) {
             DUE.due("7: no such ones", Due.sleeper(x, ask[0], ask[1]), Due.THROWS);
         }
+        DUE.due("7: a CHILD that is the first", Due.sleeper(Due.car("pc1;p;p;o"), 0, 7), NONE);
+        DUE.due("7: its paper is no paper of others", Due.sleeper(Due.car("pc1;p;p;o"), 1, 7), 0);
         x.swap(0, 2);
         x.move(2, 0);
         x.say(0, 1);
@@ -294,6 +304,8 @@ final class TextsTest {
         worth("y:n=5?1;y:2", 2);
         worth("y:n=5?1", 0);
         worth("y:n<6?1;y:n>5?3;y:4", 3);
+        worth("y:n>6?1;y:2", 2);
+        worth("y:n<6?1;y:2", 2);
         worth("y:!n=6?1;y:2", 2);
         worth("y:!!n=6?1;y:2", 1);
         worth("y:n=5&n=5|n=6?1;y:2", 1);
