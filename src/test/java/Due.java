@@ -18,6 +18,10 @@ final class Due {
         due(call, got ? 1 : 0, want ? 1 : 0);
     }
 
+    int asked() {
+        return asked;
+    }
+
     void finish(String name) {
         System.out.println(name + ": " + asked + " answers, " + wrong + " wrong");
         if (wrong != 0) {
