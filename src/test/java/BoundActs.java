@@ -146,6 +146,7 @@ final class BoundActs extends Sentences {
         b.terms(13, "one who is ASLEEP is WOKEN (beforehand)", this::asleepIsWoken);
         b.terms(14, "one who is awake LIES down (ASLEEP again, loses nothing)", this::awakeLiesDown);
         b.terms(15, "two SLEEPERS SWAP BERTHS.", this::twoSwapBerths);
+        b.terms(7, "p (a SLEEPER; 1 .. 9)", this::allOfNine);
         b.terms(18, "All these are ACTS: the latest 40 can be UNDONE one by one (LOG, too).", this::latestForty);
         b.terms(19, "LOG: of BORDERS (the latest 60): OFFICER, TENS, LATE (1, 0), SLEEP lost at it.",
                 this::latestSixty);
@@ -158,7 +159,7 @@ final class BoundActs extends Sentences {
         moved(0, 1, 102345678);
         moved(4, 5, 12354678);
         moved(4, 3, 12435678);
-        b.answers("a PAPER alone has no other place", car("p;pc1;o"), x -> x.move(0, 0), NONE);
+        b.refused("a PAPER alone has no other place", car("p;pc1;o"), x -> x.move(0, 0), NONE);
         b.answers("there and again", car(NINE), x -> x.move(0, 8) * 10 + x.move(0, 0), 8);
     }
 
@@ -174,14 +175,17 @@ final class BoundActs extends Sentences {
             for (int what = 0; what <= 2; what++) {
                 int before = was;
                 int now = what;
-                b.answers(now + " behind " + before, () -> said(before), x -> x.say(0, now),
-                        now == before ? NONE : before);
+                if (now == before) {
+                    b.refused(now + " behind " + before, () -> said(before), x -> x.say(0, now), NONE);
+                } else {
+                    b.answers(now + " behind " + before, () -> said(before), x -> x.say(0, now), before);
+                }
                 b.answers(now + " is SAID", after(() -> said(before), x -> x.say(0, now)), x -> x.sleeper(0, 8), now);
             }
         }
         b.answers("LACKS one MINUTE", car("pl1;o"), x -> x.say(0, 1), 0);
-        b.answers("LACKS none", car("pl0;o"), x -> x.say(0, 1), NONE);
-        b.answers("a CHILD that would LACK", car("p;pl9c1;o"), x -> x.say(1, 1), NONE);
+        b.refused("LACKS none", car("pl0;o"), x -> x.say(0, 1), NONE);
+        b.refused("a CHILD that would LACK", car("p;pl9c1;o"), x -> x.say(1, 1), NONE);
     }
 
     private static WokenBorder said(int what) {
@@ -196,15 +200,15 @@ final class BoundActs extends Sentences {
         b.answers("ASLEEP", car("p;o"), x -> x.wake(0), 8);
         b.answers("awake then", after(car("p;o"), x -> x.wake(0)), x -> x.sleeper(0, 9), 0);
         b.answers("WOKEN once", after(car("p;o"), x -> x.wake(0)), x -> x.woken(0), 1);
-        b.answers("awake already", after(car("p;o"), x -> x.wake(0)), x -> x.wake(0), NONE);
+        b.refused("awake already", after(car("p;o"), x -> x.wake(0)), x -> x.wake(0), NONE);
         b.answers("WOKEN no more", after(car("p;o"), x -> x.wake(0), x -> x.wake(0)), x -> x.woken(0), 1);
         b.answers("a CHILD, too", car("p;pc1;o"), x -> x.wake(1), 8);
     }
 
     private void awakeLiesDown() {
         b.answers("awake", after(() -> wokenBefore("p;o", 0), x -> x.wake(0)), x -> x.lie(0), 1);
-        b.answers("ASLEEP at first", car("p;o"), x -> x.lie(0), NONE);
-        b.answers("ASLEEP again", () -> wokenBefore("p;o", 1), x -> x.lie(0), NONE);
+        b.refused("ASLEEP at first", car("p;o"), x -> x.lie(0), NONE);
+        b.refused("ASLEEP again", () -> wokenBefore("p;o", 1), x -> x.lie(0), NONE);
         b.answers("loses nothing", () -> wokenBefore("p;o", 1), x -> x.sleeper(0, 10), 8);
         b.answers("is not WOKEN by it", () -> wokenBefore("p;o", 1), x -> x.woken(0), 1);
     }
@@ -217,6 +221,26 @@ final class BoundActs extends Sentences {
         b.answers("by SLEEPERS, not by BERTHS", after(car(NINE), x -> x.swap(0, 1), x -> x.swap(0, 2)),
                 x -> x.sleeper(1, 6), 0);
         b.answers("a CHILD, too", after(car("p;pc1;o"), x -> x.swap(1, 0)), x -> x.sleeper(1, 6), 0);
+    }
+
+    /** In the largest CAR what is kept of one touches nothing that is kept of another. */
+    private void allOfNine() {
+        Supplier<WokenBorder> world = after(() -> Worlds.car("sc9;" + "pl1;".repeat(9) + "of1", "y:20+w"),
+                x -> x.move(8, 0), x -> x.move(0, 8), x -> x.swap(0, 8), x -> x.say(0, 1), x -> x.say(8, 2),
+                x -> x.wake(0), x -> x.wake(8), x -> x.lie(8), x -> x.wake(8));
+        int[][] want = {{8, 8, 1, 0, 20}, {1, 1, 0, 1, 0}, {2, 2, 0, 1, 0}, {3, 3, 0, 1, 0}, {4, 4, 0, 1, 0},
+            {5, 5, 0, 1, 0}, {6, 6, 0, 1, 0}, {7, 7, 0, 1, 0}, {0, 0, 2, 0, 41}};
+        int[] woken = {1, 0, 0, 0, 0, 0, 0, 0, 2};
+        for (int i = 0; i < 9; i++) {
+            int who = i;
+            for (int k = 0; k < 5; k++) {
+                int what = 6 + k;
+                b.answers("of nine, sleeper(" + who + ", " + what + ")", world, x -> x.sleeper(who, what), want[i][k]);
+            }
+            b.answers("of nine, woken(" + who + ")", world, x -> x.woken(who), woken[i]);
+        }
+        b.answers("of nine, COFFEES", world, x -> x.rule(2), 9);
+        b.answers("of nine, LOG", world, x -> x.count(11), 0);
     }
 
     private void latestForty() {
@@ -237,6 +261,19 @@ final class BoundActs extends Sentences {
                     x -> x.count(11), borders - kept);
         }
         eachKindOfAct();
+        refusedBehindForty();
+    }
+
+    /** A call that is refused takes nothing from the forty that can be UNDONE. */
+    private void refusedBehindForty() {
+        Supplier<WokenBorder> forty = after(car(Worlds.CAR), x -> x.wake(0), x -> swaps(x, 39));
+        b.refused("move", forty, x -> x.move(0, 0), NONE);
+        b.refused("say", forty, x -> x.say(0, 0), NONE);
+        b.refused("wake", forty, x -> x.wake(0), NONE);
+        b.refused("lie", forty, x -> x.lie(1), NONE);
+        b.refused("swap", forty, x -> x.swap(1, 1), NONE);
+        b.refused("border", forty, x -> x.border(2), NONE);
+        b.refused("nights", forty, x -> x.nights(21, 1), NONE);
     }
 
     /** Each kind of ACT is the oldest of forty, and then the one that is too old. */

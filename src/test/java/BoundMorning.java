@@ -53,6 +53,10 @@ final class BoundMorning extends Sentences {
         give("p;p;p;p;p;p;p;o", 123456, 63);
         give("pn6;pn5;pn4;pn3;pn2;pn1;pn0;o", 6543210, 5 + 8 + 9 + 8 + 5);
         give("p;p;p;p;p;p;pc1;o", 123456, 63);
+        Supplier<WokenBorder> another = after(car("pt9;pt9;pt9;pt9;pt9;pt9;pt9;o"), x -> x.order(0, 0), x -> x.give(0),
+                x -> Due.tell(x, CAR, "pn9;p;p;p;o"));
+        b.answers("digits behind another CAR", another, x -> x.give(0), 1230);
+        b.answers("TROUBLE behind another CAR", another, x -> x.give(1), 18);
     }
 
     private void trouble() {
@@ -64,6 +68,12 @@ final class BoundMorning extends Sentences {
         give("pn9s9;pn9s9;o", 1, 9 + 2 * 81);
         give("pn9s9;pn9s9;pn0s0;o", 21, 18);
         give("pn0s1;pn1s0;pn0s1;o", 21, 1);
+        // Least of all that were tried one by one.
+        give("pn9s4;pn5s8;pn0s7;o", 120, 108);
+        give("pn3s0;pn2s1;pn5s7;pn3s6;o", 3102, 55);
+        give("pn8s1;pn9s3;pn0s3;pn6s4;pn2s6;o", 42301, 123);
+        give("pn2s1;pn2s9;pn9s7;pn2s2;pn0s0;pn3s3;pn2s2;o", 1453602, 85);
+        give("pn4s5;pn3s8;pn3s2;pn3s6;pn4s0;pn5s6;pn2s2;o", 1632045, 192);
     }
 
     private void noSuchGift() {
@@ -99,6 +109,8 @@ final class BoundMorning extends Sentences {
         b.answers("ASLEEP again", after(car("sg0;p;o"), x -> x.wake(0), x -> x.lie(0)), WokenBorder::between, 0);
         b.answers("a CHILD", after(car("sg12;p;pc1;o"), x -> x.wake(1)), WokenBorder::between, 2);
         b.answers("the ninth", after(car("sg12;" + NINE), x -> x.wake(8)), WokenBorder::between, 256);
+        b.answers("two of three", after(car("sg12;p;p;pc1;o"), x -> x.wake(0), x -> x.wake(2)), WokenBorder::between,
+                5);
         b.answers("0 of 0", after(() -> Worlds.car("sg0;p;o", "y:0"), x -> x.wake(0)), WokenBorder::between, 0);
         b.answers("1 of 0", after(() -> Worlds.car("sg0;p;o", "y:1"), x -> x.wake(0)), WokenBorder::between, 1);
         b.answers("99 of 98", after(() -> Worlds.car("sg98;p;o", "y:100"), x -> x.wake(0)), WokenBorder::between, 1);
@@ -110,8 +122,8 @@ final class BoundMorning extends Sentences {
 
     private void favours() {
         b.terms(36, "FAVOUR of an OFFICER, n (1 .. 9) nights", this::oneToNineNights);
-        b.terms(36, "the house gives a COFFEE each night (x 1) or none (0), the OFFICER looks at FACES (y 1) or not (0)",
-                this::choices);
+        b.terms(36, "the house gives a COFFEE each night (x 1) or none (0), the OFFICER looks at FACES (y 1) or not "
+                + "(0)", this::choices);
         b.terms(36, "the house has: MINUTES k for each night behind the first, if x is 1 and y is 0",
                 this::behindTheFirst);
         b.terms(36, "less 2 for each night if x is 1", this::twoForEachNight);
@@ -276,6 +288,7 @@ final class BoundMorning extends Sentences {
         b.refused("all with PAPERS", world, x -> x.which(5), 10);
         b.refused("one less", world, x -> x.which(4), 0);
         b.refused("the CHILD, too", world, x -> x.which(7), 0);
+        b.refused("the CHILD is the first", car("pc1;p;of1"), x -> x.which(2), 1);
         b.refused("nobody is ASLEEP but the CHILD", after(world, x -> x.border(1)), x -> x.which(0), 15);
         b.refused("who was awake", after(world, x -> x.wake(0)), x -> x.which(4), 10);
         b.refused("the CHILD awake", after(world, x -> x.wake(1)), x -> x.which(5), 10);
@@ -342,6 +355,7 @@ final class BoundMorning extends Sentences {
 
     private void nobodyLostAny() {
         b.refused("at first", car(Worlds.CAR), WokenBorder::tired, NONE);
+        b.refused("nine of them, at first", car(NINE), WokenBorder::tired, NONE);
         b.refused("WOKEN, but 0 lost", after(() -> Worlds.car("p;o", "y:0"), x -> x.wake(0)), WokenBorder::tired, NONE);
         b.answers("1 lost", after(() -> Worlds.car("p;o", "y:1"), x -> x.wake(0)), WokenBorder::tired, 0);
         b.refused("all UNDONE", after(car("p;o"), x -> x.wake(0), WokenBorder::undo), WokenBorder::tired, NONE);
@@ -484,12 +498,12 @@ final class BoundMorning extends Sentences {
     }
 
     private void lawThatHolds() {
-        b.answers("none at first", WokenBorder::new, x -> x.count(5), NONE);
+        b.refused("none at first", WokenBorder::new, x -> x.count(5), NONE);
         b.answers("none though one is told", after(WokenBorder::new, x -> Due.tell(x, LAW, "y:1")), x -> x.count(5),
                 NONE);
         b.answers("the first", Worlds::shelf, x -> x.count(5), 0);
         b.answers("the fourth", after(() -> Worlds.withLaws(4), x -> x.law(3)), x -> x.count(5), 3);
-        b.answers("none again", after(Worlds::shelf, x -> x.law(NONE)), x -> x.count(5), NONE);
+        b.refused("none again", after(Worlds::shelf, x -> x.law(NONE)), x -> x.count(5), NONE);
     }
 
     private void mostOfEach() {

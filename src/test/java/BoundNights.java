@@ -267,7 +267,7 @@ final class BoundNights extends Sentences {
 
     private void noSuchStep() {
         b.answers("step(0, 0, 0)", Worlds::lived, x -> x.step(0, 0, 0), 2);
-        b.answers("step(0, 2, 2)", Worlds::lived, x -> x.step(0, 2, 2), NONE);
+        b.refused("step(0, 2, 2)", Worlds::lived, x -> x.step(0, 2, 2), NONE);
         for (int one : new int[] {-1, LEAST, MOST}) {
             b.refused("step(" + one + ", 0, 0)", Worlds::lived, x -> x.step(one, 0, 0), HIDDEN);
             b.refused("step(0, " + one + ", 0)", Worlds::lived, x -> x.step(0, one, 0), HIDDEN);
@@ -290,8 +290,8 @@ final class BoundNights extends Sentences {
     }
 
     private void linesAsActs() {
-        b.terms(21, "RUN of LINES (apart): behind how many STEPS the first is that can't be; SLEEP lost by all of them.",
-                this::runUpToTheFirst);
+        b.terms(21, "RUN of LINES (apart): behind how many STEPS the first is that can't be; SLEEP lost by all of "
+                + "them.", this::runUpToTheFirst);
         b.terms(22, "DO: its STEPS as ACTS, up to there.", this::performUpToThere);
         b.promise(21, "RUN: behind how many (0; NONE: all can be), SLEEP lost (1).", this::runOfAll);
         String run = "HIDDEN: no such ones, no CAR.";

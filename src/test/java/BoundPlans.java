@@ -108,6 +108,24 @@ final class BoundPlans extends Sentences {
         order("p;p;p;p;p;p;p;o", 123456, 14);
         order("p;p;p;p;p;p;pl9;o", 6012345, 56);
         order("pc1;p;p;p;pc1;p;p;p;pl9;o", 8123567, 56);
+        b.answers("behind that of one who takes longer", after(car("se9;p;p;of1t9;o"), x -> x.order(0, 1)),
+                x -> x.order(1, 1), 4);
+        b.answers("behind GIVE", after(car("pn9s9;pn9s9;pn9s9;o"), x -> x.give(0)), x -> x.order(0, 1), 6);
+        Supplier<WokenBorder> asked = after(asking("sc1;pt1l2;pt1l3;ok3"), x -> x.order(0, 1), x -> x.say(0, 0));
+        b.answers("behind one who asked for a COFFEE", asked, x -> x.order(0, 1), 13);
+        orderWithCoffees(0, 10, 19);
+        orderWithCoffees(1, 10, 14);
+        orderWithCoffees(2, 1, 2);
+        orderWithCoffees(3, 1, 2);
+    }
+
+    /** They LACK 2 and 3: without COFFEES the second goes first; one is best drunk by the second. */
+    private void orderWithCoffees(int coffees, int digits, int tens) {
+        Supplier<WokenBorder> world = asking("sc" + coffees + ";pt1l2;pt1l3;ok3");
+        b.answers("digits with COFFEES " + coffees, world, x -> x.order(0, 0), digits);
+        b.answers("TENS with COFFEES " + coffees, world, x -> x.order(0, 1), tens);
+        Supplier<WokenBorder> one = after(car("sc" + coffees + ";pt1l2;pt1l3;ok3"), x -> x.say(1, 2));
+        b.answers("one who asks, COFFEES " + coffees, one, x -> x.order(0, 1), coffees == 0 ? 19 : 13);
     }
 
     private void moreThanSevenPapers() {
@@ -197,6 +215,14 @@ final class BoundPlans extends Sentences {
         before("sa1e9;pt1;ow1f1t0;o", "", 1, 16);
         before("sa1e9;pt1;ow0f1t0;o", "", 0, 0);
         before("sa1;pt7;ow0;ow0;ow0;ow0", "", 0, 0);
+        int[] withCoffees = {NONE, NONE, 0, 0};
+        for (int i = 0; i <= 3; i++) {
+            Supplier<WokenBorder> world = asking("sa1c" + i + ";pt1l1;pt1l1;ok1");
+            b.answers("COFFEES " + i + " for two", world, x -> x.before(0), withCoffees[i]);
+            Supplier<WokenBorder> second = after(car("sa1c" + i + ";pt1;pt1l1;ok1"), x -> x.say(1, 2));
+            b.answers("COFFEES " + i + " for one who asks", second, x -> x.before(0), i == 0 ? NONE : 0);
+            b.refused("COFFEES " + i + " for the second alone", after(world, x -> x.say(0, 0)), x -> x.before(0), NONE);
+        }
     }
 
     private void sleepTimesWeights() {
@@ -208,6 +234,7 @@ final class BoundPlans extends Sentences {
         before("sa60e9;pt1;pt1;of1t0", "y:t", 2, 0);
         before("sa60e9;pt1;pt1;of1t0", "y:o=9?9;y:t", 2, 9);
         before("sa60e9;pt1;pt1;of1t0", "y:o=9?10;y:t", 0, 10);
+        before("sa60e0;pt1;pt2;pt3;of1t0", "y:o=9?50;y:t", 0, 1 + 3);
     }
 
     private void lateWithEachSet() {
@@ -260,6 +287,14 @@ final class BoundPlans extends Sentences {
         words("sc9;pt1l1;pt6;o", 0, 7);
         words("sc9;pt1l1;pt5;o", 1, 6);
         words("sc0;p;pl9c1;pl1;o", 1, 7);
+        words("sc0e0;pt2l2;ow1k2;ow1f1t0k1", 0, 28);
+        words("sc0e0;pt2l2;ow2k2;ow1f1t0k1", 0, 42);
+        words("sc0e0;pt2l2;ow3k2;ow1f1t0k1", 1, 50);
+        words("sc1e0;pt2l2;ow1k2;ow1f1t0k1", 2, 10);
+        // Least of all that were tried one by one.
+        words("sc2e0;pt4l4;pt4l5;pt5l3;pt1l5;ow3f1t3k4;ow0f1t2k1", 202, 120);
+        words("sc0e3;pt6l2;pt7l0;pt2l0;pt4l4;pt4l0;pt6l2;ow3f0t3k4;ow1f1t1k1;ow2f0t1k1;ow1f0t3k3", 11, 293);
+        words("sc2e3;pt1l0;pt2l0;pt9l2;pt4l5;pt7l2;pt7l4;ow2f0t0k1;ow1f1t0k2;ow1f0t0k0", 2, 210);
     }
 
     private void nobodyLacks() {
@@ -437,6 +472,9 @@ final class BoundPlans extends Sentences {
         b.answers("three and three at the last two", car("pf2;pf2;pf1;pf3;o"), WokenBorder::best, 2);
         b.answers("three and one, or one and three", car("pf2;pf1;pf1;pf1;o"), WokenBorder::best, 0);
         b.answers("nine, all as far apart", car("pf1;pf2;pf3;pf4;pf5;pf6;pf7;pf8;pf9;o"), WokenBorder::best, 0);
+        b.answers("two and one at two, one and two at the last", car("pf3;pf3;pf1;o"), WokenBorder::best, 0);
+        b.answers("one way alone, none SWAPPED is out",
+                after(car("pf4;pf4;pf3;o"), x -> x.lookAt(2, false), x -> x.lookAt(1, false)), WokenBorder::best, 0);
         b.answers("one way left", after(car("pf1;pf2;o"), x -> x.lookAt(1, false)), WokenBorder::best, 0);
     }
 
@@ -511,6 +549,8 @@ final class BoundPlans extends Sentences {
         b.answers("the last of one CHILD", car(car), x -> x.heads(2, 1), 4);
         b.answers("all of them", car(car), x -> x.heads(3, 0), 6);
         b.answers("no CHILD is there", car("p;p;o"), x -> x.heads(2, 0), 0);
+        b.answers("a CHILD that is the first", car("pc1;p;o"), x -> x.heads(2, 0), 1);
+        b.answers("it was not counted", car("pc1;p;o"), x -> x.heads(1, 0), 0);
         b.answers("one too many", car("p;p;o"), x -> x.heads(3, NONE), 0);
     }
 

@@ -1,3 +1,5 @@
+import java.util.function.Supplier;
+
 /** Boundary sentences about the TAPE and what it tells: promises 1 to 10. */
 final class BoundTape extends Sentences {
     BoundTape(Bounds b) {
@@ -78,6 +80,14 @@ final class BoundTape extends Sentences {
         b.refused("two more to 239", () -> withBytes(239), x -> x.feed(0x3B, 0, 0, 0, 0x3B), NONE);
         b.refused("one more to 240", () -> withBytes(240), x -> x.feed(0, 0, 0x3B00, 0, 0), NONE);
         b.answers("none more to 240", () -> withBytes(240), x -> x.feed(0, 0, 0, 0, 0), 240);
+        for (int sign : new int[] {1, 2, 64, 127, 128, 255}) {
+            for (int at = 0; at < 4; at++) {
+                int four = sign << 8 * at;
+                String named = " byte of " + sign + ", " + at + " from the lowest";
+                b.answers("the 240th," + named, () -> withBytes(239), x -> x.feed(0, four, 0, 0, 0), 240);
+                b.refused("the 241st," + named, () -> withBytes(240), x -> x.feed(0, 0, 0, four, 0), NONE);
+            }
+        }
     }
 
     private void firstBytesAlone() {
@@ -150,6 +160,33 @@ final class BoundTape extends Sentences {
         b.bad(CAR, "y:1", 0);
         b.bad(LAW, "b0", 0);
         b.bad(LINES, "p;o", 0);
+        nothingIsLeftOfIt();
+    }
+
+    /** What stood ahead of the FAULT does not show in the next TEXT. */
+    private void nothingIsLeftOfIt() {
+        Supplier<WokenBorder> law = after(car("p;o"), x -> Due.tell(x, LAW, "y:5;y:6;"),
+                x -> Due.tell(x, LAW, "y:7"), x -> x.law(0));
+        b.answers("the next LAW", law, x -> x.wake(0), 7);
+        Supplier<WokenBorder> lines = after(WokenBorder::new, x -> Due.tell(x, LINES, "m12;m34;b9;z"),
+                x -> Due.tell(x, LINES, "w5"));
+        b.answers("the next LINES", lines, x -> x.step(0, 0, 1), 5);
+        b.refused("their second digit", lines, x -> x.step(0, 0, 2), NONE);
+        b.refused("their second STEP", lines, x -> x.step(0, 1, 0), HIDDEN);
+        Supplier<WokenBorder> car = after(WokenBorder::new,
+                x -> Due.tell(x, CAR, "pt9l9n9s9f9;ow9f1t9k9;sa9g9c9e9;x"), x -> Due.tell(x, CAR, "p;o"));
+        int[] sleeper = {2, 0, 3, 0, 0, 0, 0, 0, 0, 1, 0};
+        for (int i = 0; i <= 10; i++) {
+            int what = i;
+            b.answers("the next CAR's SLEEPER, " + i, car, x -> x.sleeper(0, what), sleeper[i]);
+        }
+        int[] officer = {1, 0, 1, 1};
+        int[] rules = {11, 20, 2, 3};
+        for (int i = 0; i < 4; i++) {
+            int what = i;
+            b.answers("the next CAR's OFFICER, " + i, car, x -> x.officer(0, what), officer[i]);
+            b.answers("the next CAR's RULES, " + i, car, x -> x.rule(what), rules[i]);
+        }
     }
 
     private void textOfNoSuchSort() {
@@ -237,7 +274,7 @@ final class BoundTape extends Sentences {
             int asked = who;
             b.answers("sleeper(" + who + ", 7)", Worlds::lived, x -> x.sleeper(asked, 7), places[who]);
         }
-        b.answers("a CHILD that is the first", car("pc1;p;o"), x -> x.sleeper(0, 7), NONE);
+        b.refused("a CHILD that is the first", car("pc1;p;o"), x -> x.sleeper(0, 7), NONE);
         b.answers("the first PAPER", car("pc1;p;o"), x -> x.sleeper(1, 7), 0);
     }
 

@@ -72,6 +72,11 @@ final class BoundTexts extends Sentences {
                 b.good(CAR, once + ";p;o");
                 b.bad(CAR, once + letter + "1;p;o", 3);
             }
+            for (char letter = 'a'; letter <= 'z'; letter++) {
+                if (letters[k].indexOf(letter) < 0) {
+                    b.bad(CAR, clauses[k] + letter + "1;p;o", 1);
+                }
+            }
         }
         b.bad(CAR, "pt1l2n3s4f5c0t1;o", 13);
     }
@@ -214,6 +219,12 @@ final class BoundTexts extends Sentences {
                 worth("y:(1=1|1=" + left + ")&1=" + right + "?1;y:0", right);
             }
         }
+        worth("y:n<4&n>2&n=3?1;y:0", 1);
+        worth("y:!n<4?1;y:0", 0);
+        worth("y:!n>2?1;y:0", 0);
+        worth("y:!!n<4&!!n>2?1;y:0", 1);
+        worth("y:n<3|n>3?1;y:0", 0);
+        worth("y:!(n<3|n>3)?1;y:0", 1);
         b.bad(LAW, "y:n?1", 3);
         b.bad(LAW, "y:n=1=1?1", 5);
         b.bad(LAW, "y:n=1&?1", 6);
@@ -326,6 +337,9 @@ final class BoundTexts extends Sentences {
         b.answers("the first LINES", WokenBorder::new, x -> Due.tell(x, LINES, "b0"), 0);
         b.answers("the fourth LINES", () -> Worlds.withLines(3), x -> Due.tell(x, LINES, "b0"), 3);
         b.answers("they can be DONE", () -> Worlds.withLines(4), x -> x.perform(3), 2);
+        b.refused("there are no fifth ones to be DONE", () -> Worlds.withLines(4), x -> x.perform(4), NONE);
+        b.refused("nor to be RUN", () -> Worlds.withLines(4), x -> x.run(4, 0), HIDDEN);
+        b.refused("nor to be seen", () -> Worlds.withLines(4), x -> x.step(4, 0, 0), HIDDEN);
         b.refused("fifth LINES", () -> Worlds.withTape(Worlds.withLines(4), "b0"), x -> x.text(LINES), NONE);
     }
 

@@ -26,6 +26,7 @@ final class Photo {
         image();
         laws();
         tape();
+        toldAnew();
         if (calls > MOST_CALLS) {
             throw new IllegalStateException("a photo took " + calls + " calls: an object serves 512 in all");
         }
@@ -145,6 +146,28 @@ final class Photo {
             see("law(" + law + ")", x.law(law) ? 1 : 0);
             see("favour(0, 9, 0, 1, 0) by LAW " + law, x.favour(0, 9, 0, 1, 0));
         }
+    }
+
+    /** Nothing that was left behind shows in what is told next. */
+    private void toldAnew() {
+        calls += 9;
+        int law = Due.tell(x, 1, "y:17");
+        see("text(1)", law);
+        see("law(" + law + ")", x.law(law) ? 1 : 0);
+        int lines = Due.tell(x, 2, "w0");
+        see("text(2)", lines);
+        for (int i = 0; i < 2; i++) {
+            see("step(" + lines + ", " + i + ", 0)", x.step(lines, i, 0));
+        }
+        see("text(0)", Due.tell(x, 0, "p;o"));
+        for (int what = 0; what <= 10; what++) {
+            see("sleeper(0, " + what + ") of another CAR", Due.sleeper(x, 0, what));
+        }
+        for (int what = 0; what < 4; what++) {
+            see("rule(" + what + ") of another CAR", x.rule(what));
+            see("officer(0, " + what + ") of another CAR", x.officer(0, what));
+        }
+        see("wake(0) of another CAR", x.wake(0));
     }
 
     /** Bytes are seen by their FAULTS as each sort, from the last few backwards. */
