@@ -1,12 +1,7 @@
 import java.util.function.Supplier;
-import java.util.function.ToLongFunction;
 
 /** Boundary sentences about ACTS: ==== 2 of the Terms, and promises 11 to 16. */
 final class BoundActs extends Sentences {
-    private static final int[] NO_SLEEPERS = {-1, 4, 9, LEAST, MOST};
-    private static final int[] NO_OFFICERS = {-1, 2, 4, LEAST, MOST};
-    private static final String NINE = "p;p;p;p;p;p;p;p;p;o";
-
     BoundActs(Bounds b) {
         super(b);
     }
@@ -476,18 +471,12 @@ final class BoundActs extends Sentences {
                 () -> noSuch("border", NO_OFFICERS, WokenBorder::border, 1, 23));
     }
 
-    private interface Asked {
-        int ask(WokenBorder x, int one);
-    }
-
     /** Refused for none of those, and without a CAR; answered for one that is there. */
     private void noSuch(String call, int[] none, Asked asked, int there, int want) {
-        b.answers(call + "(" + there + ")", Worlds::lived, x -> asked.ask(x, there), want);
         for (int one : none) {
             b.refused(call + "(" + one + ")", Worlds::lived, x -> asked.ask(x, one), NONE);
         }
-        b.refused(call + "(0) without a CAR", Worlds::shelf, x -> asked.ask(x, 0), NONE);
-        b.refused(call + "(0) of a new object", WokenBorder::new, x -> asked.ask(x, 0), NONE);
+        withoutCar(call + "(" + there + ")", x -> asked.ask(x, there), NONE, Worlds::lived, want);
     }
 
     private void noSuchPaperOrPlace() {

@@ -3,10 +3,6 @@ import java.util.function.ToLongFunction;
 
 /** Boundary sentences about berths, favours and mornings: the rest of the Terms, and promises 34 to 46. */
 final class BoundMorning extends Sentences {
-    private static final int[] NO_SLEEPERS = {-1, 4, 9, LEAST, MOST};
-    private static final int[] NO_OFFICERS = {-1, 2, 4, LEAST, MOST};
-    private static final String NINE = "p;p;p;p;p;p;p;p;p;o";
-
     BoundMorning(Bounds b) {
         super(b);
     }
@@ -24,19 +20,13 @@ final class BoundMorning extends Sentences {
         counts();
     }
 
-    private void withoutCar(String call, ToLongFunction<WokenBorder> ask, int refused, int want) {
-        b.refused(call + " with LAWS", Worlds::shelf, ask, refused);
-        b.refused(call + " of a new object", WokenBorder::new, ask, refused);
-        b.answers(call + " with a CAR", Worlds::lived, ask, want);
-    }
-
     private void give() {
         b.terms(34, "GIVE (7 SLEEPERS at most): BERTHS for all (digits: who lies in BERTH 0, the highest, ..; of "
                 + "several the least) by which TROUBLE is least", this::leastBerths);
         b.terms(34, "for each its NERVES times SNORES of both beside it, and its NERVES times how many BERTHS come "
                 + "behind its own (of BERTH 0 all others).", this::trouble);
         String none = "NONE: no CAR, no such what.";
-        b.refusal(34, none, "no CAR", () -> withoutCar("give(0)", x -> x.give(0), NONE, 231));
+        b.refusal(34, none, "no CAR", () -> withoutCar("give(0)", x -> x.give(0), NONE, Worlds::lived, 231));
         b.refusal(34, none, "no such what", this::noSuchGift);
         b.refusal(34, "HIDDEN: more than seven SLEEPERS.", "more than seven SLEEPERS", this::moreThanSevenSleepers);
     }
@@ -98,7 +88,8 @@ final class BoundMorning extends Sentences {
     private void between() {
         b.terms(35, "KEPT UP: SLEEPERS (bits) who are awake and who would lose more SLEEP, WOKEN by hand as they are "
                 + "now, than there are MINUTES from one border to the next.", this::moreThanBetween);
-        b.refusal(35, "NONE: no CAR.", "no CAR", () -> withoutCar("between()", WokenBorder::between, NONE, 0));
+        b.refusal(35, "NONE: no CAR.", "no CAR",
+                () -> withoutCar("between()", WokenBorder::between, NONE, Worlds::lived, 0));
     }
 
     private void moreThanBetween() {
@@ -205,7 +196,7 @@ final class BoundMorning extends Sentences {
         for (int what : new int[] {-1, 2, LEAST, MOST}) {
             b.refused("what " + what, Worlds::lived, x -> x.favour(0, 1, 0, 0, what), HIDDEN);
         }
-        withoutCar("favour(0, 1, 0, 0, 0)", x -> x.favour(0, 1, 0, 0, 0), HIDDEN, 0);
+        withoutCar("favour(0, 1, 0, 0, 0)", x -> x.favour(0, 1, 0, 0, 0), HIDDEN, Worlds::lived, 0);
         b.answers("the fourth", car("p;o;o;o;ok9"), x -> x.favour(3, 2, 1, 0, 0), 5);
     }
 
@@ -262,7 +253,7 @@ final class BoundMorning extends Sentences {
             b.refused("rests(" + officer + ", 1, NONE)", Worlds::lived, x -> x.rests(officer, 1, NONE), NONE);
             b.refused("rests(" + officer + ", 1, 0)", Worlds::lived, x -> x.rests(officer, 1, 0), NONE);
         }
-        withoutCar("rests(0, 1, NONE)", x -> x.rests(0, 1, NONE), NONE, 1);
+        withoutCar("rests(0, 1, NONE)", x -> x.rests(0, 1, NONE), NONE, Worlds::lived, 1);
     }
 
     private void restsOutOfBounds() {
@@ -279,7 +270,7 @@ final class BoundMorning extends Sentences {
                 + "these would be.", this::justThese);
         String none = "NONE: no such set, no CAR.";
         b.refusal(38, none, "no such set", this::noSuchSet);
-        b.refusal(38, none, "no CAR", () -> withoutCar("which(0)", x -> x.which(0), NONE, 1));
+        b.refusal(38, none, "no CAR", () -> withoutCar("which(0)", x -> x.which(0), NONE, Worlds::lived, 1));
     }
 
     private void justThese() {
@@ -313,22 +304,17 @@ final class BoundMorning extends Sentences {
         b.terms(40, "TIRED: who lost most SLEEP (of several the lowest).", this::lostMost);
         String tired = "NONE: nobody lost any, no CAR.";
         b.refusal(40, tired, "nobody lost any", this::nobodyLostAny);
-        b.refusal(40, tired, "no CAR", () -> withoutCar("tired()", WokenBorder::tired, NONE, 0));
+        b.refusal(40, tired, "no CAR", () -> withoutCar("tired()", WokenBorder::tired, NONE, Worlds::lived, 0));
         b.terms(41, "NEIGHBOURS of a SLEEPER (bits).", this::neighbours);
         b.refusal(41, "NONE: no such SLEEPER.", "no such SLEEPER",
                 () -> noSuchSleeper("beside", WokenBorder::beside, 3, 4));
     }
 
-    private interface SleeperAlone {
-        int ask(WokenBorder x, int who);
-    }
-
-    private void noSuchSleeper(String call, SleeperAlone asked, int there, int want) {
-        b.answers(call + "(" + there + ")", Worlds::lived, x -> asked.ask(x, there), want);
+    private void noSuchSleeper(String call, Asked asked, int there, int want) {
         for (int who : NO_SLEEPERS) {
             b.refused(call + "(" + who + ")", Worlds::lived, x -> asked.ask(x, who), NONE);
         }
-        withoutCar(call + "(" + there + ")", x -> asked.ask(x, there), NONE, want);
+        withoutCar(call + "(" + there + ")", x -> asked.ask(x, there), NONE, Worlds::lived, want);
         b.answers(call + "(8) of nine", car(NINE), x -> bit(asked.ask(x, 8) >= 0), 1);
         b.refused(call + "(9) of nine", car(NINE), x -> asked.ask(x, 9), NONE);
     }
@@ -395,7 +381,7 @@ final class BoundMorning extends Sentences {
         for (int officer : NO_OFFICERS) {
             b.refused("slack(" + officer + ")", Worlds::lived, x -> x.slack(officer), HIDDEN);
         }
-        withoutCar("slack(1)", x -> x.slack(1), HIDDEN, 12 - 23);
+        withoutCar("slack(1)", x -> x.slack(1), HIDDEN, Worlds::lived, 12 - 23);
         b.answers("slack(3) of four", car("p;o;o;o;o"), x -> x.slack(3), 64);
         b.refused("slack(4) of four", car("p;o;o;o;o"), x -> x.slack(4), HIDDEN);
     }
@@ -420,14 +406,15 @@ final class BoundMorning extends Sentences {
         for (int officer : NO_OFFICERS) {
             b.refused("longest(" + officer + ")", Worlds::lived, x -> x.longest(officer), NONE);
         }
-        withoutCar("longest(1)", x -> x.longest(1), NONE, 0);
+        withoutCar("longest(1)", x -> x.longest(1), NONE, Worlds::lived, 0);
         b.answers("longest(3) of four", car("pl1;o;o;o;o"), x -> x.longest(3), 0);
         b.refused("longest(4) of four", car("pl1;o;o;o;o"), x -> x.longest(4), NONE);
     }
 
     private void images() {
         b.promise(44, "An IMAGE (instead of the one ahead): how many are ASLEEP.", this::insteadOfTheOneAhead);
-        b.refusal(44, "NONE: no CAR.", "no CAR", () -> withoutCar("image()", WokenBorder::image, NONE, 2));
+        b.refusal(44, "NONE: no CAR.", "no CAR",
+                () -> withoutCar("image()", WokenBorder::image, NONE, Worlds::lived, 2));
         b.terms(45, "An IMAGE keeps BERTHS, DRAWER, what is SAID, who is ASLEEP, WOKEN, SLEEP lost, COFFEES, the LOG; "
                 + "BACK: they are so again (no ACT can be UNDONE then).", this::soAgain);
         b.refusal(45, "NONE: no IMAGE of this CAR.", "no IMAGE of this CAR", this::noImage);

@@ -1,5 +1,4 @@
 import java.util.function.Supplier;
-import java.util.function.ToLongFunction;
 
 /** Boundary sentences about NIGHTS, UNDO, the LOG and LINES: promises 17 to 22. */
 final class BoundNights extends Sentences {
@@ -296,21 +295,14 @@ final class BoundNights extends Sentences {
         b.promise(21, "RUN: behind how many (0; NONE: all can be), SLEEP lost (1).", this::runOfAll);
         String run = "HIDDEN: no such ones, no CAR.";
         b.refusal(21, run, "no such ones", this::runOfNoLines);
-        b.refusal(21, run, "no CAR", () -> withoutCar("run(0, 0)", x -> x.run(0, 0), HIDDEN));
+        b.refusal(21, run, "no CAR", () -> withoutCar("run(0, 0)", x -> x.run(0, 0), HIDDEN, shelfAndCar(), NONE));
         String perform = "NONE: no such LINES, no CAR.";
         b.refusal(22, perform, "no such LINES", this::performOfNoLines);
-        b.refusal(22, perform, "no CAR", () -> withoutCar("perform(0)", x -> x.perform(0), NONE));
+        b.refusal(22, perform, "no CAR", () -> withoutCar("perform(0)", x -> x.perform(0), NONE, shelfAndCar(), 3));
     }
 
-    private void withoutCar(String call, ToLongFunction<WokenBorder> ask, int want) {
-        b.refused(call, Worlds::shelf, ask, want);
-        b.refused(call + " of a new object", WokenBorder::new, ask, want);
-        b.answers(call + " with a CAR", () -> withCar(Worlds.shelf()), x -> bit(ask.applyAsLong(x) != HIDDEN), 1);
-    }
-
-    private static WokenBorder withCar(WokenBorder x) {
-        Due.tell(x, 0, Worlds.CAR);
-        return x;
+    private static Supplier<WokenBorder> shelfAndCar() {
+        return after(Worlds::shelf, x -> Due.tell(x, CAR, Worlds.CAR));
     }
 
     private static WokenBorder lines(String lines) {

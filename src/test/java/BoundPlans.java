@@ -1,9 +1,7 @@
 import java.util.function.Supplier;
-import java.util.function.ToLongFunction;
 
 /** Boundary sentences about plans and guesses: the first part of ==== 3 of the Terms, and promises 23 to 33. */
 final class BoundPlans extends Sentences {
-    private static final int[] NO_OFFICERS = {-1, 2, 4, LEAST, MOST};
     private static final int[] NO_WHATS = {-1, 2, LEAST, MOST};
     /** Two who LACK something and one who does not, each ASLEEP. */
     private static final String PLAIN = "sa60;pt1l1;pt2l2;pt3;o;of1";
@@ -75,11 +73,7 @@ final class BoundPlans extends Sentences {
                 () -> noSuchOfficer("bound", WokenBorder::bound, 1, 18));
     }
 
-    private interface OfficerAlone {
-        int ask(WokenBorder x, int officer);
-    }
-
-    private void noSuchOfficer(String call, OfficerAlone asked, int there, int want) {
+    private void noSuchOfficer(String call, Asked asked, int there, int want) {
         b.answers(call + "(" + there + ")", car(PLAIN), x -> asked.ask(x, there), want);
         for (int officer : NO_OFFICERS) {
             b.refused(call + "(" + officer + ")", Worlds::lived, x -> asked.ask(x, officer), NONE);
@@ -163,15 +157,11 @@ final class BoundPlans extends Sentences {
         b.terms(26, "none, if some OFFICER is LATE with each set.", this::lateWithEachSet);
         String none = "NONE: there is none, no CAR, no such what.";
         b.refusal(26, none, "there is none", this::noSetToWake);
-        b.refusal(26, none, "no CAR", () -> withoutCar("before", WokenBorder::before));
+        b.refusal(26, none, "no CAR", () -> whatWithoutCar("before", WokenBorder::before));
         b.refusal(26, none, "no such what", () -> noSuchWhat("before", WokenBorder::before));
     }
 
-    private interface What {
-        int ask(WokenBorder x, int what);
-    }
-
-    private void withoutCar(String call, What asked) {
+    private void whatWithoutCar(String call, Asked asked) {
         for (int what = 0; what <= 1; what++) {
             int there = what;
             b.refused(call + "(" + what + ")", Worlds::shelf, x -> asked.ask(x, there), NONE);
@@ -180,7 +170,7 @@ final class BoundPlans extends Sentences {
         }
     }
 
-    private void noSuchWhat(String call, What asked) {
+    private void noSuchWhat(String call, Asked asked) {
         b.answers(call + "(0)", car(PLAIN), x -> bit(asked.ask(x, 0) >= 0), 1);
         b.answers(call + "(1)", car(PLAIN), x -> bit(asked.ask(x, 1) >= 0), 1);
         for (int what : NO_WHATS) {
@@ -262,7 +252,7 @@ final class BoundPlans extends Sentences {
                 this::leastDigitsToSay);
         String none = "NONE: nobody with a PAPER LACKS anything, no CAR, no such what.";
         b.refusal(27, none, "nobody with a PAPER LACKS anything", this::nobodyLacks);
-        b.refusal(27, none, "no CAR", () -> withoutCar("words", WokenBorder::words));
+        b.refusal(27, none, "no CAR", () -> whatWithoutCar("words", WokenBorder::words));
         b.refusal(27, none, "no such what", () -> noSuchWhat("words", WokenBorder::words));
     }
 
@@ -413,16 +403,10 @@ final class BoundPlans extends Sentences {
         b.promise(31, "FIT: how many (i NONE), the i-th.", this::howManyFit);
         String fit = "NONE: no such one, no CAR.";
         b.refusal(31, fit, "no such one", this::noSuchWay);
-        b.refusal(31, fit, "no CAR", () -> withoutCar("fit", x -> x.fit(NONE), 2));
+        b.refusal(31, fit, "no CAR", () -> withoutCar("fit", x -> x.fit(NONE), NONE, car("pf1;pf2;o"), 2));
         String best = "NONE: no way fits, no CAR.";
         b.refusal(32, best, "no way fits", this::noWayFits);
-        b.refusal(32, best, "no CAR", () -> withoutCar("best", WokenBorder::best, 0));
-    }
-
-    private void withoutCar(String call, ToLongFunction<WokenBorder> ask, int want) {
-        b.refused(call + " with LAWS", Worlds::shelf, ask, NONE);
-        b.refused(call + " of a new object", WokenBorder::new, ask, NONE);
-        b.answers(call + " with a CAR", car("pf1;pf2;o"), ask, want);
+        b.refusal(32, best, "no CAR", () -> withoutCar("best", WokenBorder::best, NONE, car("pf1;pf2;o"), 0));
     }
 
     private void unlikeFaces() {
@@ -534,7 +518,8 @@ final class BoundPlans extends Sentences {
         String none = "NONE: no such one, out of bounds, no CAR.";
         b.refusal(33, none, "no such one", this::noSuchSet);
         b.refusal(33, none, "out of bounds", this::headsOutOfBounds);
-        b.refusal(33, none, "no CAR", () -> withoutCar("heads(0, NONE)", x -> x.heads(0, NONE), 0));
+        b.refusal(33, none, "no CAR",
+                () -> withoutCar("heads(0, NONE)", x -> x.heads(0, NONE), NONE, car("pf1;pf2;o"), 0));
     }
 
     private void setsOfChildren() {
