@@ -43,10 +43,15 @@ final class BoundMorning extends Sentences {
         give("p;p;p;p;p;p;p;o", 123456, 63);
         give("pn6;pn5;pn4;pn3;pn2;pn1;pn0;o", 6543210, 5 + 8 + 9 + 8 + 5);
         give("p;p;p;p;p;p;pc1;o", 123456, 63);
-        Supplier<WokenBorder> another = after(car("pt9;pt9;pt9;pt9;pt9;pt9;pt9;o"), x -> x.order(0, 0), x -> x.give(0),
-                x -> Due.tell(x, CAR, "pn9;p;p;p;o"));
-        b.answers("digits behind another CAR", another, x -> x.give(0), 1230);
-        b.answers("TROUBLE behind another CAR", another, x -> x.give(1), 18);
+        behindAnotherCar("p;p;p;p;o", 123, 18);
+        behindAnotherCar("pn9;p;p;p;o", 1230, 18);
+    }
+
+    private void behindAnotherCar(String car, int digits, int trouble) {
+        Supplier<WokenBorder> world = after(car("pt9;pt9;pt9;pt9;pt9;pt9;pt9;o"), x -> x.order(0, 0), x -> x.give(0),
+                x -> Due.tell(x, CAR, car));
+        b.answers("digits behind another CAR, " + car, world, x -> x.give(0), digits);
+        b.answers("TROUBLE behind another CAR, " + car, world, x -> x.give(1), trouble);
     }
 
     private void trouble() {
